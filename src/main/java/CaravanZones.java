@@ -524,14 +524,15 @@ public final class CaravanZones {
         }
 
         void unpack(int load) {
-            int place = placeOf(load);
-            if (place < 0) {
-                return;
+            int kept = 0;
+            for (int i = 0; i < bagSize; i++) {
+                int other = bag.at(i);
+                if (other != load) {
+                    bag.change(kept, other);
+                    kept++;
+                }
             }
-            for (int i = place; i + 1 < bagSize; i++) {
-                bag.change(i, bag.at(i + 1));
-            }
-            bagSize--;
+            bagSize = kept;
         }
 
         int placeOf(int load) {

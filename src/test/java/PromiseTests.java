@@ -155,6 +155,27 @@ public final class PromiseTests {
     due("load(5, 4)", x.load(5, 4), 0);
     due("put(6)", x.put(6), 0);
     due("mark", x.slot(0, 0, 1), 5);
+
+    // wherever the caravan is, and whichever load lies in a slot
+    x = new CaravanZones();
+    due("perform", told(x, "g3;s"), 2);
+    due("setWell", x.setWell(1, true), 2);
+    due("setKind", x.setKind(2, 2), 0);
+    due("write", x.write(0), NOT_POSSIBLE);
+    due("lay(4, 6)", x.lay(4, 6), 24);
+    due("at", x.caravan(0), 0);
+    due("water", x.caravan(1), 57);
+    due("count(10)", x.count(10), 1);
+    due("zone(1, 5)", x.zone(1, 5), 0);
+    due("zone(2, 3)", x.zone(2, 3), 0);
+    due("zone(3, 4)", x.zone(3, 4), 0);
+    due("write", x.write(0), 0);
+    due("lay(4, 6)", x.lay(4, 6), NOT_POSSIBLE);
+    due("perform", told(x, "t0;w39"), 2);
+    due("lay(4, 6)", x.lay(4, 6), NOT_POSSIBLE);
+    due("take", x.take(39), 2);
+    due("lay(4, 6)", x.lay(4, 6), 24);
+    due("count(4)", x.count(4), 24);
   }
 
   private static void kinds() {
@@ -679,6 +700,16 @@ public final class PromiseTests {
     due("count(12)", x.count(12), 4);
     due("dusk()", x.dusk(), 0);
     due("heat", x.load(3, 4), 0);
+
+    // the first load and the last one
+    x = new CaravanZones();
+    due("perform", told(x, "w0;w0;w39;w39"), 4);
+    due("set", x.set(2, 2), 3);
+    due("count(6)", x.count(6), 2);
+    due("dusk()", x.dusk(), 2);
+    due("count(6)", x.count(6), 0);
+    due("heat", x.load(0, 4), 1);
+    due("heat", x.load(39, 4), 1);
   }
 
   private static void typing() {
@@ -842,6 +873,18 @@ public final class PromiseTests {
     due("zone(0, 4)", x.zone(0, 4), 0);
     due("restore", x.restore(), 0);
     due("zone(0, 4)", x.zone(0, 4), 1);
+
+    // slots that were written anew have their loads and marks again
+    x = new CaravanZones();
+    due("perform", told(x, "w1;w2;w3;w1;t1;t2;t3"), 7);
+    String before = picture(x);
+    due("perform", told(x, "r;p3;p1;w9;w9;w9"), 6);
+    due("slot(0, 0, 0)", x.slot(0, 0, 0), 3);
+    due("undo()", x.undo(), 1);
+    same(x, "undo()", before, 1);
+    due("slot(0, 0, 0)", x.slot(0, 0, 0), 1);
+    due("slot(0, 3, 1)", x.slot(0, 3, 1), 3);
+    due("scan(1)", x.scan(1), 3);
   }
 
   /** Loads in several zones and in the bag, and free slots where the caravan is. */
@@ -963,6 +1006,15 @@ public final class PromiseTests {
     int[] steps = {1, 2, 3, 0};
     for (int zone = 0; zone < 4; zone++) { due("zone(" + zone + ", 7)", x.zone(zone, 7), steps[zone]); }
     due("count(12)", x.count(12), 3);
+
+    // a zone with as many slots as there may be ends where the next one begins
+    x = new CaravanZones();
+    due("lay", x.lay(2, 12), 24);
+    for (int load = 0; load < 12; load++) { due("write", x.write(load), load); }
+    due("perform", told(x, "g1;w20"), 2);
+    due("zone(0, 1)", x.zone(0, 1), 12);
+    due("zone(0, 2)", x.zone(0, 2), 0);
+    due("zone(1, 1)", x.zone(1, 1), 1);
   }
 
   private static void tellingSlots() {
@@ -1132,6 +1184,8 @@ public final class PromiseTests {
     // a zone with live ones alone is none of them
     x = new CaravanZones();
     due("perform", told(x, "w1;g1;w2;g1;w3;w4;w5;w5"), 8);
+    due("worst()", x.worst(), 2);
+    due("go", x.go(1), 3);
     due("worst()", x.worst(), 2);
   }
 
