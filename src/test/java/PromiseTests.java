@@ -11,40 +11,21 @@ public final class PromiseTests {
     }
   }
 
-  private static int told(CaravanZones x, String text) {
-    x.clearText();
-    for (int i = 0; i < text.length(); i++) { x.type(text.charAt(i)); }
+  private static int told(Taped x, String text) {
+    x.text(text);
     return x.perform();
   }
 
-  /** All that a state tells, in a text: two states that tell the same are the same text. */
-  private static String picture(CaravanZones x) {
-    StringBuilder all = new StringBuilder();
-    for (int what = 0; what <= 11; what++) { all.append(x.count(what)).append(' '); }
-    for (int what = 0; what <= 6; what++) { all.append(x.caravan(what)).append(' '); }
-    for (int zone = 0; zone < x.count(0); zone++) {
-      for (int what = 0; what <= 7; what++) { all.append(x.zone(zone, what)).append(' '); }
-      for (int slot = 0; slot < x.count(1); slot++) {
-        for (int what = 0; what <= 2; what++) { all.append(x.slot(zone, slot, what)).append(' '); }
-      }
-    }
-    for (int load = 0; load < 40; load++) {
-      for (int what = 0; what <= 6; what++) { all.append(x.load(load, what)).append(' '); }
-    }
-    for (int place = 0; place < 7; place++) { all.append(x.bagAt(place)).append(' '); }
-    return all.toString();
-  }
-
   /** A call that was refused: its answer was compared before, and nothing may have changed. */
-  private static void same(CaravanZones x, String call, String picture, int states) {
-    if (!picture(x).equals(picture) || x.count(12) != states) {
+  private static void same(Taped x, String call, String picture, int states) {
+    if (!x.picture().equals(picture) || x.count(12) != states) {
       wrong++;
       System.out.println("promise " + promise + ": " + call + " changed something");
     }
   }
 
-  private static void dueRefused(CaravanZones x, String text, int want) {
-    String picture = picture(x);
+  private static void dueRefused(Taped x, String text, int want) {
+    String picture = x.picture();
     int states = x.count(12);
     due(text, told(x, text), want);
     same(x, text, picture, states);
@@ -86,7 +67,7 @@ public final class PromiseTests {
   }
 
   private static void aNewObject() {
-    CaravanZones x = new CaravanZones();
+    Taped x = new Taped();
     due("UNKNOWN", CaravanZones.UNKNOWN, UNKNOWN);
     due("BAD_VALUE", CaravanZones.BAD_VALUE, BAD_VALUE);
     due("FULL", CaravanZones.FULL, FULL);
@@ -112,7 +93,7 @@ public final class PromiseTests {
   }
 
   private static void laying() {
-    CaravanZones x = new CaravanZones();
+    Taped x = new Taped();
     due("lay(1, 6)", x.lay(1, 6), BAD_VALUE);
     due("lay(9, 6)", x.lay(9, 6), BAD_VALUE);
     due("lay(4, 1)", x.lay(4, 1), BAD_VALUE);
@@ -128,7 +109,7 @@ public final class PromiseTests {
     due("slot(7, 11, 0)", x.slot(7, 11, 0), NONE);
     due("slot(7, 12, 0)", x.slot(7, 12, 0), UNKNOWN);
 
-    x = new CaravanZones();
+    x = new Taped();
     due("perform", told(x, "w5;w5;w5;g2;w6;w6;r"), NOT_POSSIBLE);
     due("perform", told(x, "w5;w5;w5;g2;w6;w6"), 6);
     due("lay(3, 4)", x.lay(3, 4), NOT_POSSIBLE);
@@ -157,7 +138,7 @@ public final class PromiseTests {
     due("mark", x.slot(0, 0, 1), 5);
 
     // wherever the caravan is, and whichever load lies in a slot
-    x = new CaravanZones();
+    x = new Taped();
     due("perform", told(x, "g3;s"), 2);
     due("setWell", x.setWell(1, true), 2);
     due("setKind", x.setKind(2, 2), 0);
@@ -179,7 +160,7 @@ public final class PromiseTests {
   }
 
   private static void kinds() {
-    CaravanZones x = new CaravanZones();
+    Taped x = new Taped();
     due("setKind(-1, 0)", x.setKind(-1, 0), UNKNOWN);
     due("setKind(4, 1)", x.setKind(4, 1), UNKNOWN);
     due("setKind(4, 3)", x.setKind(4, 3), UNKNOWN);
@@ -198,7 +179,7 @@ public final class PromiseTests {
   }
 
   private static void wells() {
-    CaravanZones x = new CaravanZones();
+    Taped x = new Taped();
     due("setWell(-1, true)", x.setWell(-1, true), UNKNOWN);
     due("setWell(4, false)", x.setWell(4, false), UNKNOWN);
     due("setWell(0, true)", x.setWell(0, true), NONE);
@@ -222,7 +203,7 @@ public final class PromiseTests {
   }
 
   private static void settings() {
-    CaravanZones x = new CaravanZones();
+    Taped x = new Taped();
     int[][] bad = {{-1, 3}, {3, 3}, {0, -1}, {0, 7}, {1, 9}, {1, 201}, {2, 0}, {2, 10}, {9, 60}};
     for (int[] call : bad) { due("set(" + call[0] + ", " + call[1] + ")", x.set(call[0], call[1]), BAD_VALUE); }
     due("set(0, 3)", x.set(0, 3), NONE);
@@ -248,7 +229,7 @@ public final class PromiseTests {
     due("count(7)", x.count(7), 9);
     due("caravan(4)", x.caravan(4), 6);
     due("perform", told(x, "w1;w2;t1;t2"), 4);
-    String picture = picture(x);
+    String picture = x.picture();
     due("set(0, 1)", x.set(0, 1), NOT_POSSIBLE);
     due("set(0, 0)", x.set(0, 0), NOT_POSSIBLE);
     due("set(0, 7)", x.set(0, 7), BAD_VALUE);
@@ -258,7 +239,7 @@ public final class PromiseTests {
   }
 
   private static void going() {
-    CaravanZones x = new CaravanZones();
+    Taped x = new Taped();
     due("go(0)", x.go(0), BAD_VALUE);
     due("go(25)", x.go(25), BAD_VALUE);
     due("go(-1)", x.go(-1), BAD_VALUE);
@@ -272,7 +253,7 @@ public final class PromiseTests {
     due("water", x.caravan(1), 60);
     due("set", x.set(1, 10), 60);
     due("setWell", x.setWell(0, false), 0);
-    String picture = picture(x);
+    String picture = x.picture();
     due("go(11)", x.go(11), DRY);
     same(x, "go(11)", picture, 4);
     due("go(10)", x.go(10), 2);
@@ -285,7 +266,7 @@ public final class PromiseTests {
   }
 
   private static void writing() {
-    CaravanZones x = new CaravanZones();
+    Taped x = new Taped();
     due("write(-1)", x.write(-1), UNKNOWN);
     due("write(40)", x.write(40), UNKNOWN);
     due("lay", x.lay(3, 3), 9);
@@ -300,7 +281,7 @@ public final class PromiseTests {
     due("slot(0, 2, 1)", x.slot(0, 2, 1), 2);
     due("water", x.caravan(1), 57);
     due("used", x.caravan(6), 3);
-    String picture = picture(x);
+    String picture = x.picture();
     due("write(1)", x.write(1), NOT_POSSIBLE);
     due("write(40)", x.write(40), UNKNOWN);
     same(x, "write(1)", picture, 4);
@@ -309,13 +290,13 @@ public final class PromiseTests {
     due("slot(0, 2, 2)", x.slot(0, 2, 2), 0);
     due("heat", x.load(0, 4), 3);
     due("take(0)", x.take(0), 1);
-    picture = picture(x);
+    picture = x.picture();
     due("write(0)", x.write(0), NOT_POSSIBLE);
     same(x, "write(0)", picture, 4);
     due("moved", x.count(11), 0);
 
     // the heat is greater before the kind is looked at
-    x = new CaravanZones();
+    x = new Taped();
     due("setKind", x.setKind(0, 2), 0);
     due("write(7)", x.write(7), 0);
     due("write(7)", x.write(7), 1);
@@ -329,7 +310,7 @@ public final class PromiseTests {
     due("write(8)", x.write(8), 3);
 
     // no water
-    x = new CaravanZones();
+    x = new Taped();
     due("set", x.set(1, 10), 60);
     due("setWell", x.setWell(0, false), 0);
     due("go", x.go(9), 1);
@@ -344,7 +325,7 @@ public final class PromiseTests {
     due("write", x.write(40), UNKNOWN);
 
     // the heat is 99 at most
-    x = new CaravanZones();
+    x = new Taped();
     due("lay", x.lay(2, 12), 24);
     due("set", x.set(1, 200), 60);
     for (int i = 0; i < 100; i++) {
@@ -357,7 +338,7 @@ public final class PromiseTests {
   }
 
   private static void taking() {
-    CaravanZones x = new CaravanZones();
+    Taped x = new Taped();
     due("take(-1)", x.take(-1), UNKNOWN);
     due("take(40)", x.take(40), UNKNOWN);
     due("take(1)", x.take(1), NOT_POSSIBLE);
@@ -374,7 +355,7 @@ public final class PromiseTests {
     due("bagAt(1)", x.bagAt(1), 3);
     due("bagAt(2)", x.bagAt(2), 1);
     due("water", x.caravan(1), 60);
-    String picture = picture(x);
+    String picture = x.picture();
     due("take(2)", x.take(2), FULL);
     due("take(3)", x.take(3), NOT_POSSIBLE);
     due("take(40)", x.take(40), UNKNOWN);
@@ -387,7 +368,7 @@ public final class PromiseTests {
   }
 
   private static void putting() {
-    CaravanZones x = new CaravanZones();
+    Taped x = new Taped();
     due("put(-1)", x.put(-1), UNKNOWN);
     due("put(40)", x.put(40), UNKNOWN);
     due("put(1)", x.put(1), NOT_POSSIBLE);
@@ -404,7 +385,7 @@ public final class PromiseTests {
     due("moved", x.count(11), 1);
     due("water", x.caravan(1), 55);
     due("setKind", x.setKind(1, 1), 0);
-    String picture = picture(x);
+    String picture = x.picture();
     due("put(1)", x.put(1), NOT_POSSIBLE);
     same(x, "put(1)", picture, 4);
     due("set", x.set(2, 1), 3);
@@ -413,7 +394,7 @@ public final class PromiseTests {
     due("put(3)", x.put(3), NOT_POSSIBLE);
     due("moved", x.count(11), 2);
 
-    x = new CaravanZones();
+    x = new Taped();
     due("perform", told(x, "w1;t1;g1"), 3);
     due("set", x.set(1, 10), 60);
     due("setWell", x.setWell(0, false), 0);
@@ -427,7 +408,7 @@ public final class PromiseTests {
     due("put(1)", x.put(1), NOT_POSSIBLE);
 
     // the last slot seals here, too
-    x = new CaravanZones();
+    x = new Taped();
     due("lay", x.lay(2, 2), 4);
     due("perform", told(x, "w1;w2;t1;t2;g1;p2;p1"), 7);
     due("sealed", x.zone(1, 4), 1);
@@ -436,7 +417,7 @@ public final class PromiseTests {
   }
 
   private static void dropping() {
-    CaravanZones x = new CaravanZones();
+    Taped x = new Taped();
     due("drop(-1)", x.drop(-1), UNKNOWN);
     due("drop(40)", x.drop(40), UNKNOWN);
     due("drop(3)", x.drop(3), NONE);
@@ -463,13 +444,13 @@ public final class PromiseTests {
   }
 
   private static void resetting() {
-    CaravanZones x = new CaravanZones();
+    Taped x = new Taped();
     due("reset()", x.reset(), NONE);
     due("count(12)", x.count(12), 0);
     due("perform", told(x, "w1;w2;w1;w2"), 4);
     due("reset()", x.reset(), NOT_POSSIBLE);
     due("drop", x.drop(1), 1);
-    String picture = picture(x);
+    String picture = x.picture();
     due("reset()", x.reset(), NOT_POSSIBLE);
     same(x, "reset()", picture, 2);
     due("take", x.take(2), 1);
@@ -491,12 +472,12 @@ public final class PromiseTests {
     due("put(2)", x.put(2), 0);
 
     // a load of the same number in the bag or elsewhere does not hold the zone
-    x = new CaravanZones();
+    x = new Taped();
     due("perform", told(x, "w1;g1;w1;g3;r"), 5);
     due("load(1, 1)", x.load(1, 1), 1);
 
     // DRY comes ahead of NONE, and behind NOT_POSSIBLE
-    x = new CaravanZones();
+    x = new Taped();
     due("set", x.set(1, 10), 60);
     due("setWell", x.setWell(0, false), 0);
     due("perform", told(x, "g4;w1;g3"), 3);
@@ -508,12 +489,12 @@ public final class PromiseTests {
     due("reset()", x.reset(), NOT_POSSIBLE);
     due("drop", x.drop(1), 1);
     due("reset()", x.reset(), DRY);
-    x = new CaravanZones();
+    x = new Taped();
     due("set", x.set(1, 10), 60);
     due("setWell", x.setWell(0, false), 0);
     due("perform", told(x, "g6;s;r"), 3);
     due("water", x.caravan(1), 1);
-    x = new CaravanZones();
+    x = new Taped();
     due("set", x.set(1, 10), 60);
     due("setWell", x.setWell(0, false), 0);
     due("perform", told(x, "g7;s;r"), 3);
@@ -521,7 +502,7 @@ public final class PromiseTests {
   }
 
   private static void sealing() {
-    CaravanZones x = new CaravanZones();
+    Taped x = new Taped();
     due("seal()", x.seal(), 6);
     due("seal()", x.seal(), NONE);
     due("count(12)", x.count(12), 1);
@@ -537,7 +518,7 @@ public final class PromiseTests {
   }
 
   private static void cleaning() {
-    CaravanZones x = new CaravanZones();
+    Taped x = new Taped();
     due("clean()", x.clean(), NONE);
     due("seal", x.seal(), 6);
     due("clean()", x.clean(), NONE);
@@ -545,7 +526,7 @@ public final class PromiseTests {
     due("count(12)", x.count(12), 1);
 
     // nothing lives: it is only reset
-    x = new CaravanZones();
+    x = new Taped();
     due("perform", told(x, "w1;w1;d1"), 3);
     due("clean()", x.clean(), 0);
     due("zone(0, 0)", x.zone(0, 0), 0);
@@ -555,7 +536,7 @@ public final class PromiseTests {
     due("water", x.caravan(1), 55);
 
     // by the slots, in the order of the bag, behind what was there before and stays
-    x = new CaravanZones();
+    x = new Taped();
     due("perform", told(x, "w9;w3;w1;w3;w2;t9;t2"), 7);
     due("put(2)", x.put(2), 5);
     due("sealed", x.zone(0, 4), 1);
@@ -578,7 +559,7 @@ public final class PromiseTests {
     due("water", x.caravan(1), 47);
 
     // those that may not be written are passed over; the others go on as far as to the zone itself
-    x = new CaravanZones();
+    x = new Taped();
     due("lay", x.lay(3, 3), 9);
     due("perform", told(x, "w1;w1;w1;g1;w1;w2;w3;t1"), 8);
     due("put", x.put(1), NOT_POSSIBLE);
@@ -601,7 +582,7 @@ public final class PromiseTests {
     due("load(2, 2)", x.load(2, 2), 1);
 
     // a zone that becomes sealed by the first takes no second
-    x = new CaravanZones();
+    x = new Taped();
     due("lay", x.lay(3, 2), 6);
     due("perform", told(x, "g1;w9;g2;w1;w2"), 5);
     due("clean()", x.clean(), 2);
@@ -610,7 +591,7 @@ public final class PromiseTests {
     due("at", x.caravan(0), 2);
 
     // hot ones and others go into different zones; a well on the way fills the skin
-    x = new CaravanZones();
+    x = new Taped();
     due("perform", told(x, "g1;w1;w1;w1;w2"), 5);
     due("setKind(2, 2)", x.setKind(2, 2), 0);
     due("setKind(3, 1)", x.setKind(3, 1), 0);
@@ -631,7 +612,7 @@ public final class PromiseTests {
 
   private static void cleaningRefused() {
     // FULL comes ahead of DRY, and loads in the bag take room; the heat of none is changed
-    CaravanZones x = new CaravanZones();
+    Taped x = new Taped();
     due("set", x.set(1, 10), 60);
     due("setWell", x.setWell(0, false), 0);
     due("perform", told(x, "w1;w2;w3;w4;t4;g4;w4"), NOT_POSSIBLE);
@@ -639,7 +620,7 @@ public final class PromiseTests {
     due("clean()", x.clean(), FULL);
     due("set", x.set(0, 4), 3);
     due("water", x.caravan(1), 6);
-    String picture = picture(x);
+    String picture = x.picture();
     due("clean()", x.clean(), DRY);
     same(x, "clean()", picture, 4);
     due("set", x.set(0, 0), NOT_POSSIBLE);
@@ -675,15 +656,15 @@ public final class PromiseTests {
   }
 
   /** No wells, and ten units of water. */
-  private static CaravanZones dryLand() {
-    CaravanZones x = new CaravanZones();
+  private static Taped dryLand() {
+    Taped x = new Taped();
     x.set(1, 10);
     x.setWell(0, false);
     return x;
   }
 
   private static void dusks() {
-    CaravanZones x = new CaravanZones();
+    Taped x = new Taped();
     due("dusk()", x.dusk(), 0);
     due("count(12)", x.count(12), 1);
     due("perform", told(x, "w1;w1;w1;w2;w2;w2;g1;w3;w3;w3;w3;w3;w3"), 13);
@@ -702,7 +683,7 @@ public final class PromiseTests {
     due("heat", x.load(3, 4), 0);
 
     // the first load and the last one
-    x = new CaravanZones();
+    x = new Taped();
     due("perform", told(x, "w0;w0;w39;w39"), 4);
     due("set", x.set(2, 2), 3);
     due("count(6)", x.count(6), 2);
@@ -713,7 +694,7 @@ public final class PromiseTests {
   }
 
   private static void typing() {
-    CaravanZones x = new CaravanZones();
+    Taped x = new Taped();
     char[] odd = {(char) 0, (char) 65535, ';', ' ', 'G'};
     for (int i = 0; i < 60; i++) { due("type", x.type(odd[i % odd.length]), i + 1); }
     due("count(13)", x.count(13), 60);
@@ -725,7 +706,7 @@ public final class PromiseTests {
   }
 
   private static void clearing() {
-    CaravanZones x = new CaravanZones();
+    Taped x = new Taped();
     due("clearText()", x.clearText(), 0);
     due("type", x.type('s'), 1);
     due("type", x.type('x'), 2);
@@ -741,7 +722,7 @@ public final class PromiseTests {
   }
 
   private static void faults() {
-    CaravanZones x = new CaravanZones();
+    Taped x = new Taped();
     Object[][] texts = {
       {"", 0}, {";", 0}, {"x", 0}, {"G1", 0}, {"1", 0}, {" r", 0}, {"\u0000", 0},
       {"r;", 2}, {"r;;", 2}, {"r; s", 2}, {"rs", 1}, {"r1", 1}, {"s0", 1}, {"c9", 1}, {"r ", 1},
@@ -766,7 +747,7 @@ public final class PromiseTests {
   private static final int NO_FAULT = -1;
 
   private static void performing() {
-    CaravanZones x = new CaravanZones();
+    Taped x = new Taped();
     dueRefused(x, "g0", BAD_VALUE);
     dueRefused(x, "g25", BAD_VALUE);
     dueRefused(x, "w40", UNKNOWN);
@@ -779,7 +760,7 @@ public final class PromiseTests {
     dueRefused(x, "w1;w2;w3;w4;c", FULL);
     dueRefused(x, "w1;r", NOT_POSSIBLE);
     due("count(12)", x.count(12), 0);
-    String before = picture(x);
+    String before = x.picture();
     due("perform", told(x, "w1;g1;s;g1;s;g1;s;g1;c"), 9);
     due("load(1, 1)", x.load(1, 1), 0);
     due("load(1, 2)", x.load(1, 2), 0);
@@ -809,7 +790,7 @@ public final class PromiseTests {
     due("count(12)", x.count(12), 4);
 
     // each letter does its order, with one digit and with two
-    x = new CaravanZones();
+    x = new Taped();
     due("perform", told(x, "w0;w39;w10;w9"), 4);
     int[] written = {0, 39, 10, 9};
     for (int slot = 0; slot < 4; slot++) { due("slot", x.slot(0, slot, 0), written[slot]); }
@@ -827,7 +808,7 @@ public final class PromiseTests {
     due("load(9, 1)", x.load(9, 1), 1);
 
     // the first error is told, and only when its turn comes
-    x = new CaravanZones();
+    x = new Taped();
     dueRefused(x, "w1;t1;w40;g0", UNKNOWN);
     dueRefused(x, "w1;t1;g0;w40", BAD_VALUE);
     dueRefused(dryLand(), "g9;w1;w1", DRY);
@@ -838,7 +819,7 @@ public final class PromiseTests {
   }
 
   private static void undoing() {
-    CaravanZones x = new CaravanZones();
+    Taped x = new Taped();
     for (int load = 0; load < 5; load++) { due("write", x.write(load), load); }
     due("count(12)", x.count(12), 4);
     for (int left = 3; left >= 0; left--) {
@@ -861,7 +842,7 @@ public final class PromiseTests {
     due("load(7, 0)", x.load(7, 0), 0);
 
     // neither the text nor the snapshot is taken back, and neither is recorded
-    x = new CaravanZones();
+    x = new Taped();
     due("type", x.type('s'), 1);
     due("keep", x.keep(), 0);
     due("undo()", x.undo(), NONE);
@@ -875,9 +856,9 @@ public final class PromiseTests {
     due("zone(0, 4)", x.zone(0, 4), 1);
 
     // slots that were written anew have their loads and marks again
-    x = new CaravanZones();
+    x = new Taped();
     due("perform", told(x, "w1;w2;w3;w1;t1;t2;t3"), 7);
-    String before = picture(x);
+    String before = x.picture();
     due("perform", told(x, "r;p3;p1;w9;w9;w9"), 6);
     due("slot(0, 0, 0)", x.slot(0, 0, 0), 3);
     due("undo()", x.undo(), 1);
@@ -888,8 +869,8 @@ public final class PromiseTests {
   }
 
   /** Loads in several zones and in the bag, and free slots where the caravan is. */
-  private static CaravanZones busy() {
-    CaravanZones x = new CaravanZones();
+  private static Taped busy() {
+    Taped x = new Taped();
     x.lay(4, 9);
     x.set(0, 4);
     x.set(2, 2);
@@ -899,7 +880,7 @@ public final class PromiseTests {
     return x;
   }
 
-  private static int act(CaravanZones x, int number) {
+  private static int act(Taped x, int number) {
     switch (number) {
       case 0: return x.setKind(1, 2);
       case 1: return x.setWell(1, true);
@@ -927,13 +908,13 @@ public final class PromiseTests {
 
   private static void undoingEachAct() {
     for (int number = 0; number < 20; number++) {
-      CaravanZones x = busy();
+      Taped x = busy();
       x.keep();
       due("set", x.set(1, 77), 60);
-      String before = picture(x);
+      String before = x.picture();
       int twice = number == 13 || number == 18 || number == 19 ? 2 : 1;
       due("act " + number, act(x, number) >= 0 ? 1 : 0, 1);
-      String after = picture(x);
+      String after = x.picture();
       if (after.equals(before)) { due("act " + number + " did something", 0, 1); }
       due("count(12)", x.count(12), 4);
       for (int i = 0; i < twice; i++) { due("undo after act " + number, x.undo(), 3 - i); }
@@ -942,13 +923,13 @@ public final class PromiseTests {
   }
 
   private static void keeping() {
-    CaravanZones x = new CaravanZones();
+    Taped x = new Taped();
     due("keep()", x.keep(), 0);
     due("count(12)", x.count(12), 0);
     due("perform", told(x, "w1;w2"), 2);
     due("keep()", x.keep(), 2);
     due("perform", told(x, "w3"), 1);
-    String before = picture(x);
+    String before = x.picture();
     int states = x.count(12);
     due("undo", x.undo(), 1);
     due("restore", x.restore(), 2);
@@ -959,17 +940,17 @@ public final class PromiseTests {
   }
 
   private static void restoring() {
-    CaravanZones x = new CaravanZones();
+    Taped x = new Taped();
     due("restore()", x.restore(), NONE);
     due("count(12)", x.count(12), 0);
     due("perform", told(x, "w1;w2;t2"), 3);
     due("keep", x.keep(), 2);
-    String kept = picture(x);
+    String kept = x.picture();
     due("perform", told(x, "p2;g1;w4;w5"), 4);
     due("lay", x.lay(8, 8), NOT_POSSIBLE);
     due("set", x.set(1, 99), 60);
     due("dusk", x.dusk(), 0);
-    String later = picture(x);
+    String later = x.picture();
     due("restore()", x.restore(), 2);
     same(x, "restore()", kept, 4);
     due("count(13)", x.count(13), 11);
@@ -991,7 +972,7 @@ public final class PromiseTests {
   }
 
   private static void tellingZones() {
-    CaravanZones x = new CaravanZones();
+    Taped x = new Taped();
     due("zone(-1, 0)", x.zone(-1, 0), UNKNOWN);
     due("zone(4, 0)", x.zone(4, 0), UNKNOWN);
     due("zone(4, 8)", x.zone(4, 8), UNKNOWN);
@@ -1008,7 +989,7 @@ public final class PromiseTests {
     due("count(12)", x.count(12), 3);
 
     // a zone with as many slots as there may be ends where the next one begins
-    x = new CaravanZones();
+    x = new Taped();
     due("lay", x.lay(2, 12), 24);
     for (int load = 0; load < 12; load++) { due("write", x.write(load), load); }
     due("perform", told(x, "g1;w20"), 2);
@@ -1018,7 +999,7 @@ public final class PromiseTests {
   }
 
   private static void tellingSlots() {
-    CaravanZones x = new CaravanZones();
+    Taped x = new Taped();
     due("slot(-1, 0, 0)", x.slot(-1, 0, 0), UNKNOWN);
     due("slot(4, 0, 0)", x.slot(4, 0, 0), UNKNOWN);
     due("slot(0, -1, 0)", x.slot(0, -1, 0), UNKNOWN);
@@ -1044,7 +1025,7 @@ public final class PromiseTests {
   }
 
   private static void tellingLoads() {
-    CaravanZones x = new CaravanZones();
+    Taped x = new Taped();
     due("load(-1, 0)", x.load(-1, 0), UNKNOWN);
     due("load(40, 0)", x.load(40, 0), UNKNOWN);
     due("load(40, 7)", x.load(40, 7), UNKNOWN);
@@ -1072,7 +1053,7 @@ public final class PromiseTests {
   }
 
   private static void scanning() {
-    CaravanZones x = new CaravanZones();
+    Taped x = new Taped();
     due("scan(-1)", x.scan(-1), UNKNOWN);
     due("scan(40)", x.scan(40), UNKNOWN);
     due("scan(0)", x.scan(0), NONE);
@@ -1089,14 +1070,14 @@ public final class PromiseTests {
     due("scan(0)", x.scan(0), NONE);
     due("scan(1)", x.scan(1), NONE);
     due("scan(2)", x.scan(2), NONE);
-    x = new CaravanZones();
+    x = new Taped();
     due("lay", x.lay(8, 12), 96);
     due("perform", told(x, "g7;w5;w6;w6;w6;w6;w6;w6;w6;w6;w6;w6;w5"), 13);
     due("scan(5)", x.scan(5), 711);
   }
 
   private static void tellingTheCaravan() {
-    CaravanZones x = new CaravanZones();
+    Taped x = new Taped();
     due("caravan(-1)", x.caravan(-1), BAD_VALUE);
     due("caravan(7)", x.caravan(7), BAD_VALUE);
     due("perform", told(x, "w1;w2;t1;g1;p1;g2;t2"), NOT_POSSIBLE);
@@ -1115,7 +1096,7 @@ public final class PromiseTests {
   }
 
   private static void tellingTheBag() {
-    CaravanZones x = new CaravanZones();
+    Taped x = new Taped();
     due("bagAt(-1)", x.bagAt(-1), BAD_VALUE);
     due("bagAt(MIN)", x.bagAt(Integer.MIN_VALUE), BAD_VALUE);
     due("bagAt(0)", x.bagAt(0), NONE);
@@ -1131,7 +1112,7 @@ public final class PromiseTests {
   }
 
   private static void ways() {
-    CaravanZones x = new CaravanZones();
+    Taped x = new Taped();
     due("waterTo(-1)", x.waterTo(-1), UNKNOWN);
     due("waterTo(4)", x.waterTo(4), UNKNOWN);
     for (int zone = 0; zone < 4; zone++) { due("waterTo", x.waterTo(zone), zone); }
@@ -1153,7 +1134,7 @@ public final class PromiseTests {
   }
 
   private static void worstZones() {
-    CaravanZones x = new CaravanZones();
+    Taped x = new Taped();
     due("worst()", x.worst(), NONE);
     due("write", x.write(1), 0);
     due("worst()", x.worst(), NONE);
@@ -1182,7 +1163,7 @@ public final class PromiseTests {
     due("write", x.write(9), NOT_POSSIBLE);
     due("worst()", x.worst(), 2);
     // a zone with live ones alone is none of them
-    x = new CaravanZones();
+    x = new Taped();
     due("perform", told(x, "w1;g1;w2;g1;w3;w4;w5;w5"), 8);
     due("worst()", x.worst(), 2);
     due("go", x.go(1), 3);
@@ -1190,7 +1171,7 @@ public final class PromiseTests {
   }
 
   private static void nearestZones() {
-    CaravanZones x = new CaravanZones();
+    Taped x = new Taped();
     due("nearestFor(-1)", x.nearestFor(-1), UNKNOWN);
     due("nearestFor(40)", x.nearestFor(40), UNKNOWN);
     due("nearestFor(39)", x.nearestFor(39), 0);
@@ -1215,7 +1196,7 @@ public final class PromiseTests {
     due("reset", x.reset(), 0);
     due("set", x.set(2, 4), 3);
     due("nearestFor(1)", x.nearestFor(1), 0);
-    x = new CaravanZones();
+    x = new Taped();
     due("lay", x.lay(2, 2), 4);
     due("perform", told(x, "w1;w1"), 2);
     due("nearestFor(1)", x.nearestFor(1), 1);
@@ -1224,7 +1205,7 @@ public final class PromiseTests {
   }
 
   private static void counting() {
-    CaravanZones x = new CaravanZones();
+    Taped x = new Taped();
     due("count(-1)", x.count(-1), BAD_VALUE);
     due("count(14)", x.count(14), BAD_VALUE);
     due("lay", x.lay(5, 3), 15);
