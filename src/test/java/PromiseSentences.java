@@ -92,7 +92,7 @@ public final class PromiseSentences {
       before + "lay(4,6)=24 " + freshZones(4, 6),
       before + "lay(2,2)=4 " + freshZones(2, 2),
       before + "lay(8,12)=96 " + freshZones(8, 12),
-      "lay(8,12)=96 setKind(7,1)=0 setWell(7,true)=2 <g7;s;r;s>=4 lay(2,2)=4 lay(8,12)=96 " + freshZones(8, 12),
+      "lay(8,12)=96 <g7;s;r;w1;d1;s>=6 setKind(7,1)=0 setWell(7,true)=2 lay(2,2)=4 lay(8,12)=96 " + freshZones(8, 12),
       "lay(2,12)=24 " + times(12, "write(3) ") + "take(3) lay(8,2)=16 " + freshZones(8, 2) + "scan(3)=NONE put(3)=0 slot(0,1,0)=NONE");
     s.test("Promise 2", "Its bag, skin and water (it does not come to a well by that), and the heats, the bound and the next mark stay.",
       "set(0,5)=3 set(1,80)=60 set(2,2)=3 <w1;w2;w3;w1;t2;t3;t1;d3;g3>=9 caravan(1)=53 lay(3,3)=9 caravan(0)=0 caravan(1)=53 caravan(2)=80"
@@ -307,6 +307,7 @@ public final class PromiseSentences {
       DRY_LAND + "<g7;w1;d1>=3 caravan(1)=2 clean()=DRY",
       DRY_LAND + "<g6;w1;d1>=3 caravan(1)=3 clean()=0 caravan(1)=0", DRY_LAND + "<g6;w1>=2 caravan(1)=3 clean()=DRY",
       DRY_LAND + "<g5;w1>=2 caravan(1)=4 clean()=DRY", DRY_LAND + "<g4;w1>=2 caravan(1)=5 clean()=1 caravan(1)=0",
+      "lay(2,2)=4 " + DRY_LAND + "<g1;s;g3;w1>=4 caravan(1)=5 clean()=DRY", DRY_LAND + "set(0,0)=3 <w1;g8>=2 caravan(1)=1 clean()=FULL",
       DRY_LAND + "<g3;w1;w2>=3 caravan(1)=5 clean()=DRY", DRY_LAND + "<g2;w1;w2>=3 caravan(1)=6 clean()=1 caravan(1)=0",
       DRY_LAND + "<g3;w1>=2 caravan(1)=6 setKind(0,1)=0 clean()=2 caravan(1)=0",
       DRY_LAND + "<g4;w1>=2 caravan(1)=5 setKind(1,1)=0 clean()=DRY",
@@ -366,7 +367,7 @@ public final class PromiseSentences {
       "<w1;w2;w3>=3 count(12)=1 <w4>=1 count(12)=2 undo()=1 zone(0,0)=3 undo()=0 zone(0,0)=0 undo()=NONE", "<w1;w2;g25>=BAD_VALUE count(12)=0");
     s.test("Promise 17", "Returns how many there are; -100 minus the fault of the text if it has one (which is an error); otherwise, of the first order"
       + " for which it is so when its turn comes, the error that its method returns (NONE is no error here: the order does nothing then).",
-      "<s>=1 <s;s>=2 <s;s;s;s;s;s;s;s;s;s;s;s;s;s;s;s;s;s;s;s;s;s;s;s;s;s;s;s;s;s>=30",
+      "<s>=1 <s;s>=2 <s;s;s;s;s;s;s;s;s;s;s;s;s;s;s;s;s;s;s;s;s;s;s;s;s;s;s;s;s;r>=30 zone(0,4)=0 zone(0,6)=1",
       "perform()=-100 <x>=-100 <w>=-101 <w1;w2;x>=-106 " + times(30, "type(s) ") + "perform()=-106",
       times(30, "type(s) type(;) ") + "perform()=-160",
       "<w40;g0>=UNKNOWN <g0;w40>=BAD_VALUE <t1;w40>=NOT_POSSIBLE <w1;t1;w1>=NOT_POSSIBLE <w1;w2;w3;w4;c>=FULL <w1;w2;w3;w4;t1;t2;t3;t4>=FULL",
@@ -417,7 +418,8 @@ public final class PromiseSentences {
       + " 0), 5 for whether it has a well (1, otherwise 0), 6 for how often it was reset, 7 for the steps from the caravan to it (0 if the caravan is there)",
       "<g2;s;r;s;r;w1;w2;w1;w3;d3;s;g1>=12 setKind(2,2)=0 setWell(2,true)=2 zone(2,0)=4 zone(2,1)=2 zone(2,2)=2 zone(2,3)=2 zone(2,4)=1 zone(2,5)=1"
       + " zone(2,6)=2 zone(2,7)=3 zone(3,7)=0 zone(0,7)=1 zone(1,7)=2 zone(1,0)=0 zone(1,1)=0 zone(1,2)=0 zone(1,3)=0 zone(1,4)=0 zone(1,5)=0 zone(1,6)=0",
-      "lay(2,12)=24 " + times(12, "write(1) ") + "zone(0,0)=12 zone(0,1)=1 zone(0,2)=11 zone(1,0)=0 zone(1,1)=0",
+      "lay(2,12)=24 " + times(12, "write(1) ") + "zone(0,0)=12 zone(0,1)=1 zone(0,2)=11 zone(1,0)=0 zone(1,1)=0 go(1) write(20)"
+      + " zone(0,1)=1 zone(0,2)=11 zone(1,1)=1 zone(1,2)=0",
       "lay(2,2)=4 <w1;w2>=2 zone(0,1)=2 zone(0,2)=0 take(1) zone(0,1)=1 zone(0,2)=1 drop(2) zone(0,1)=0 zone(0,2)=2 reset()=2 zone(0,2)=0 zone(0,6)=1",
       "lay(8,2)=16 zone(7,7)=7 go(7)=7 zone(7,7)=0 zone(0,7)=1 zone(6,7)=7", "<w1;c>=2 zone(0,6)=1 zone(1,6)=0 zone(1,7)=0 zone(0,7)=3");
     s.test("Promise 21", "Returns the number; UNKNOWN; BAD_VALUE.",
@@ -462,7 +464,7 @@ public final class PromiseSentences {
       "lay(8,12)=96 go(7) " + times(12, "write(5) ") + "scan(5)=711", "<w1;d1>=2 lay(2,2)=4 scan(1)=NONE", "<w0>=1 scan(0)=0 scan(1)=NONE");
     s.test("Promise 24", A_LOAD, outside("scan(#)", 0, 39, "UNKNOWN") + "<w0;w39>=2 scan(0)=0 scan(39)=1");
     s.test("Promise 24", "Returns 100 * zone + slot of the one with the greatest mark; UNKNOWN; NONE if there is none.",
-      "scan(0)=NONE scan(39)=NONE scan(40)=UNKNOWN", "<w1;w1;g3;w2;w1;g1;w1;g3>=8 scan(1)=2 scan(2)=300", "<g3;w1;g1;w1>=4 scan(1)=0 <g1;w1;g3>=3 scan(1)=100",
+      "scan(0)=NONE scan(39)=NONE scan(40)=UNKNOWN write(0)=0 scan(0)=0", "<w1;w1;g3;w2;w1;g1;w1;g3>=8 scan(1)=2 scan(2)=300", "<g3;w1;g1;w1>=4 scan(1)=0 <g1;w1;g3>=3 scan(1)=100",
       "<w1;w1;g1;w1;g1;w2;w2;w1;t1>=9 scan(1)=202 drop(1) scan(1)=202 drop(2) reset()=3 scan(1)=100 scan(2)=NONE");
   }
 
@@ -550,7 +552,7 @@ public final class PromiseSentences {
       "<s;r;g1;s;r>=5 count(9)=2 zone(0,6)=1 lay(2,2)=4 count(9)=2 zone(0,6)=0 <s;r>=2 count(9)=3 undo()=2 count(9)=2", "<w1;c>=2 count(9)=1",
       // by put() and clean(), not by write() and take()
       "<w1;w1;t1>=3 count(11)=0 put(1) count(11)=1 <w2;w3;c>=3 count(11)=4 drop(1) count(11)=4 drop(2) drop(3) lay(2,2)=4 count(11)=4",
-      "<w1;t1;d1>=3 count(11)=0", "<w1;s;g3;w2;w3;d3>=6 clean() count(11)=1",
+      "<w1;t1;d1>=3 count(11)=0", "<w1;d1;r>=3 count(8)=1 count(9)=1 count(3)=0", "<w1;s;g3;w2;w3;d3>=6 clean() count(11)=1",
       "lay(2,2)=4 count(4)=4 write(1) write(1) go(1) write(1) write(1) count(2)=1 count(3)=3 count(4)=0 count(5)=2", "lay(8,12)=96 count(4)=96",
       times(5, "dusk() ") + "count(12)=4 undo() count(12)=3", times(60, "type(x) ") + "count(13)=60", "set(2,1)=3 count(6)=0 <w0;w39>=2 count(6)=2",
       "setWell(1,true) setWell(2,true) setWell(3,true) count(10)=4 setWell(0,false) count(10)=3");

@@ -155,6 +155,7 @@ public final class TermSentences {
       "set(1,200)=60 caravan(1)=60 go(4)=0 caravan(1)=200",
       DRY_LAND + "go(9)=1 setWell(2,true)=1 caravan(1)=1 go(1)=2 caravan(1)=10 go(10)=0 caravan(1)=8",
       "<g3;w1;c>=3 caravan(0)=0 caravan(1)=59",
+      DRY_LAND + "go(10)=2 setWell(3,true)=1 go(1)=DRY",
       "go(3)=3 undo()=0 caravan(1)=60 keep() go(2) restore() caravan(1)=60 write(1) keep() restore() caravan(1)=59");
     s.test("THE CARAVAN", "What the caravan does costs water; it is not possible if it has not so much.",
       DRY_LAND + "go(10)=2 caravan(1)=0 go(1)=DRY",
@@ -169,7 +170,9 @@ public final class TermSentences {
       DRY_LAND + "<g6;w1>=2 caravan(1)=3 clean()=DRY",
       DRY_LAND + "<g7;w1>=2 caravan(1)=2 clean()=DRY",
       DRY_LAND + "<g6;w1;d1>=3 caravan(1)=3 clean()=0 caravan(1)=0",
-      DRY_LAND + "<g7;w1;d1>=3 caravan(1)=2 clean()=DRY");
+      DRY_LAND + "<g7;w1;d1>=3 caravan(1)=2 clean()=DRY",
+      "lay(2,2)=4 " + DRY_LAND + "<g1;s;g3;w1>=4 caravan(1)=5 clean()=DRY",
+      "lay(2,2)=4 " + DRY_LAND + "<g1;s;g1;w1>=4 caravan(1)=7 write(1)=1 caravan(1)=6 clean()=2 caravan(1)=0");
     s.test("THE CARAVAN", "A step to the next zone costs 1, a slot that is written 1, a reset 3; the rest nothing.",
       "go(1)=1 caravan(1)=59 caravan(6)=1 go(2)=3 caravan(1)=57 caravan(6)=3 go(24)=3 caravan(6)=27",
       "write(1) caravan(1)=59 caravan(6)=1 take(1) caravan(1)=59 put(1) caravan(1)=58 drop(1) caravan(1)=58"
@@ -212,12 +215,15 @@ public final class TermSentences {
       "<w1;w2;w3;w4>=4 clean()=FULL",
       DRY_LAND + "<w1;w2;w3;g4>=4 caravan(1)=3 clean()=DRY",
       DRY_LAND + "<w1;w2>=2 go(2) go(2) caravan(1)=4 clean()=DRY",
+      DRY_LAND + "<w1;g7;w2;g1>=4 caravan(0)=0 caravan(1)=0 clean()=DRY",
+      DRY_LAND + "<w1;d1;w1;d1;g4;w1;d1;w1;d1>=9 caravan(1)=2 clean()=DRY",
       DRY_LAND + "<w1;w2;g2;g1;g1>=5 setWell(2,true)=1 clean()=DRY",
       DRY_LAND + "<w1;w2>=2 set(1,12)=10 setWell(0,true)=1 setWell(0,false)=0 <g4;g2;g1;w3;w4>=5 setKind(0,1)=0 clean()=DRY",
       "set(2,2)=3 <g1;s;g1;s;g1;s;g1;w1;w2;w2>=10 setKind(0,2)=0 clean()=NOT_POSSIBLE",
       // by their slots, in the order of the bag
       "<w3;w1;w2>=3 clean()=1 slot(1,0,0)=3 slot(1,1,0)=1 slot(1,2,0)=2 slot(1,3,0)=NONE caravan(3)=0",
       "<w3;w1;w3;w2>=4 clean()=1 slot(1,0,0)=1 slot(1,1,0)=3 slot(1,2,0)=2 slot(1,3,0)=NONE",
+      "lay(2,12)=24 <g1;w20;g1>=3 " + times(12, "write(1) ") + "clean()=1 slot(1,0,0)=20 slot(1,1,0)=1 zone(1,0)=2 count(11)=1",
       // nothing is live: it is only reset
       "<w1;d1>=2 clean()=0 zone(0,0)=0 zone(0,6)=1 caravan(5)=0 caravan(0)=0 caravan(1)=56",
       "set(0,0)=3 <w1;d1>=2 clean()=0 zone(0,6)=1",
@@ -247,10 +253,11 @@ public final class TermSentences {
     s.test("TEXTS", "There is a text of at most 60 characters, empty at first.",
       "count(13)=0 perform()=-100 clearText()=0",
       times(59, "type(s) ") + "count(13)=59 type(s)=60 type(s)=FULL count(13)=60",
-      times(29, "type(s) type(;) ") + "type(d) type(1)=60 type(x)=FULL type(;)=FULL perform()=30");
+      times(29, "type(s) type(;) ") + "type(w) type(1)=60 type(x)=FULL type(;)=FULL perform()=NOT_POSSIBLE clearText()=60",
+      "set(0,6)=3 " + times(29, "type(r) type(;) ") + "type(w) type(1)=60 type(x)=FULL type(;)=FULL perform()=30 slot(0,0,0)=1");
     s.test("TEXTS", "A text of orders is one or more orders with \";\" between two.",
       "<s>=1 <s;s>=2 <d1;s;d2>=3",
-      times(29, "type(s) type(;) ") + "type(s)=59 perform()=30",
+      times(29, "type(s) type(;) ") + "type(r)=59 perform()=30 zone(0,4)=0 zone(0,6)=1",
       "perform()=-100 <;>=-100 <;s>=-100 <s;>=-102 <s;;s>=-102 <ss>=-101 <s,s>=-101 <s:s>=-101 <w1w2>=-102");
     s.test("TEXTS", "An order is a letter, and for some a number of one or two digits without a zero in front (unless it is the single"
       + " digit 0): \"g\" and the steps, \"w\", \"t\", \"p\", \"d\" and a load; \"r\", \"s\", \"c\" without a number.",
@@ -279,7 +286,7 @@ public final class TermSentences {
       times(30, "type(s) type(;) ") + "perform()=-160",
       times(60, "type(x) ") + "perform()=-100"));
     for (int sign = 0; sign <= 260; sign++) { addFaultsOf(sign, runs); }
-    for (int sign : new int[] {1633, 8217, 65297, 65535}) { addFaultsOf(sign, runs); }
+    for (int sign : new int[] {304, 315, 359, 371, 1633, 8217, 65297, 65535}) { addFaultsOf(sign, runs); }
     s.test("TEXTS", "The fault of the text is the index, from 0, of the first character that is not allowed at its place, or the length of"
       + " the text if it ends too early (the empty text does).", runs.toArray(new String[0]));
   }
@@ -341,6 +348,7 @@ public final class TermSentences {
       "seal() clearText() undo() count(13)=0", "type(s) keep() clearText()=1 restore() count(13)=0",
       "write(1) keep() write(2) restore()=1 count(12)=3 undo()=2 load(2,0)=1 undo()=1 load(2,0)=0 undo()=0 load(1,0)=0",
       "keep()=0 write(1) keep()=1 undo()=0 restore()=1 load(1,0)=1",
+      "<w1;w2;t2>=3 keep()=2 remember <g1;p2;w1;w3;t3>=5 undo()=1 same <g1;p2;w1;w3;t3>=5 restore()=2 same",
       RICH + "remember <d1;d2;r;w7;w7;t7;g1;d5;d4;r;p7;p3;g1;r;w8;w8;w9;w9>=18 undo()=3 same",
       RICH + "remember keep()=7 <d1;d2;d4;d5;r;g1;r>=7 lay(3,3)=9 set(0,5)=4 set(1,50)=60 set(2,5)=2 dusk()=0 <w8;w9;t8;g1;p8>=5"
       + " setKind(0,2)=0 setWell(1,true)=2 restore()=7 same write(9)=4 keep()=8 undo()=3 same");
@@ -390,7 +398,7 @@ public final class TermSentences {
       RICH + "zone(4,0)=UNKNOWN zone(0,8)=BAD_VALUE slot(0,5,0)=UNKNOWN slot(0,0,3)=BAD_VALUE slot(0,4,0)=NONE load(40,0)=UNKNOWN"
       + " load(0,7)=BAD_VALUE load(3,1)=NONE load(1,6)=NONE scan(40)=UNKNOWN scan(9)=NONE caravan(7)=BAD_VALUE bagAt(-1)=BAD_VALUE"
       + " bagAt(1)=NONE waterTo(4)=UNKNOWN nearestFor(40)=UNKNOWN count(14)=BAD_VALUE",
-      "worst()=NONE " + times(60, "type(s) ") + "type(s)=FULL");
+      "worst()=NONE " + times(29, "type(s) type(;) ") + "type(d) type(1)=60 type(x)=FULL type(;)=FULL");
   }
 
   private static void constants() {
