@@ -79,7 +79,7 @@ public final class Sentences {
     return due < 0 && !x.whole().equals(before) ? "changed something" : null;
   }
 
-  private static int number(String text) {
+  static int number(String text) {
     switch (text) {
       case "UNKNOWN": return CaravanZones.UNKNOWN;
       case "BAD_VALUE": return CaravanZones.BAD_VALUE;
@@ -95,7 +95,7 @@ public final class Sentences {
     }
   }
 
-  private static int answer(Taped x, String call) {
+  static int answer(Taped x, String call) {
     String method = call.substring(0, call.indexOf('('));
     String inside = call.substring(call.indexOf('(') + 1, call.length() - 1);
     if (method.equals("type")) {
